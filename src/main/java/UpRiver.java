@@ -20,62 +20,55 @@ public final class UpRiver {
 
     private static final int MOST_CELLS = 40, SHEETS = 4, IMAGES = 2, MOST_READ = 12;
 
-    private final Tape tape = new Tape();
-    private final Reader reader;
+    private final Reader reader = new Reader();
     private final Voyage voyage = new Voyage();
     private final Voyage[] images = new Voyage[IMAGES];
     private final Sheet[] sheets = new Sheet[SHEETS];
-    private final Search search;
+    private final Search search = new Search();
     private final Skipper skipper = new Skipper();
     private final Boat trial = new Boat();
     // A start depends on the river alone, so its arrival is worked out once a text; 0 is not yet.
     private final int[] startArrivals = new int[LAST_MINUTE + 1];
     private River river = new River();
-    // A text is read into this one, so that a fault leaves the river as it was.
-    private River draft = new River();
-    private int fault;
     private int torn;
 
     public UpRiver() {
-        reader = new Reader(tape, draft);
-        search = new Search(river);
         for (int i = 0; i < IMAGES; i++) {
             images[i] = new Voyage();
         }
         for (int k = 0; k < SHEETS; k++) {
             sheets[k] = new Sheet();
         }
-        voyage.boat.lieAtStart(river, 0);
     }
 
     // ---- the text, the river
 
     public int feed(long v) {
-        return tape.append(v) ? tape.length : FULL;
+        return reader.tape.append(v) ? reader.tape.length : FULL;
     }
 
     public int end(int n) {
-        if (n < 0 || n > tape.length) {
+        int had = reader.tape.length;
+        if (n < 0 || n > had) {
             return BAD;
         }
-        int had = tape.length;
-        tape.length = n;
+        reader.tape.length = n;
         return had;
     }
 
     public int text() {
-        boolean taken = reader.readText(draft);
-        tape.length = 0;
-        fault = reader.fault;
+        boolean taken = reader.readText();
+        reader.tape.length = 0;
         if (!taken) {
             return -10 - reader.faultPlace;
         }
-        beginOnDraft();
+        river = reader.tradeFor(river);
+        beginAnew();
         return reader.lines;
     }
 
     public int fault() {
-        return fault;
+        return reader.fault;
     }
 
     public int rule(int what) {
@@ -276,7 +269,7 @@ public final class UpRiver {
             trial.lieAtStart(river, 0);
             search.begin(river, d * k);
             search.add(trial);
-            if (search.arrive(0, river.rules[DARK]) != NONE) {
+            if (search.arrive(river, 0, river.rules[DARK]) != NONE) {
                 good++;
                 firstGood = firstGood == NONE ? d : firstGood;
             }
@@ -517,7 +510,7 @@ public final class UpRiver {
             case 2: return howMany(river.eddies);
             case 3: return howMany(river.lees);
             case 4: return asInt(images[0].kept) + asInt(images[1].kept);
-            case 5: return tape.length;
+            case 5: return reader.tape.length;
             case 6: return sheets[0].size;
             default: return BAD;
         }
@@ -575,10 +568,7 @@ public final class UpRiver {
         return (r + 1 < draught ? a : 0) + (r < draught ? b : 0) + (r - 1 < draught ? c : 0);
     }
 
-    private void beginOnDraft() {
-        River old = river;
-        river = draft;
-        draft = old;
+    private void beginAnew() {
         for (int t = 0; t <= LAST_MINUTE; t++) {
             startArrivals[t] = 0;
         }
@@ -594,7 +584,7 @@ public final class UpRiver {
         search.begin(river, 0);
         search.keepTo(lowLane, highLane);
         search.add(boat);
-        return search.arrive(boat.minute, LAST_MINUTE);
+        return search.arrive(river, boat.minute, LAST_MINUTE);
     }
 
     private int trialArrival() {
@@ -632,7 +622,7 @@ public final class UpRiver {
                 search.add(trial);
             }
         }
-        return search.arrive(t, LAST_MINUTE);
+        return search.arrive(river, t, LAST_MINUTE);
     }
 
     /** What a text tells: rules, phases, places. */
@@ -792,10 +782,11 @@ public final class UpRiver {
         private static final int BANK_MARKS = 14, LEE_MARKS = 22, WIND_MARKS = 30, DEEP_MARKS = 38, EDDY_MARKS = 110;
         private static final int ALL_MARKS = 182;
 
-        final Tape tape;
+        final Tape tape = new Tape();
         final boolean[] marks = new boolean[ALL_MARKS];
         final int[] numbers = new int[PHASES];
-        River river;
+        // A river of its own, so that a fault leaves the one that is in use as it was.
+        River draft = new River();
         int place;
         int token;
         int begin;
@@ -805,14 +796,15 @@ public final class UpRiver {
         int fault;
         int faultPlace;
 
-        Reader(Tape from, River into) {
-            tape = from;
-            river = into;
+        /** Hands out the river that was read; the old one serves for the next text. */
+        River tradeFor(River old) {
+            River told = draft;
+            draft = old;
+            return told;
         }
 
-        boolean readText(River into) {
-            river = into;
-            river.forget();
+        boolean readText() {
+            draft.forget();
             forget();
             // A line has two bytes at least, so the tape's length is bound enough.
             for (int i = 0; i <= tape.length; i++) {
@@ -827,10 +819,10 @@ public final class UpRiver {
                 }
                 lines++;
             }
-            if (highestTold >= river.rules[REACHES]) {
+            if (highestTold >= draft.rules[REACHES]) {
                 return fail(NO_REACH, tape.length);
             }
-            river.settle();
+            draft.settle();
             return true;
         }
 
@@ -1044,7 +1036,7 @@ public final class UpRiver {
 
         void tell(int kind) {
             if (kind < RULES) {
-                river.rules[kind] = numbers[0];
+                draft.rules[kind] = numbers[0];
             } else if (kind == TIDE || kind == HIGH) {
                 tellPhases(kind);
             } else {
@@ -1056,9 +1048,9 @@ public final class UpRiver {
         void tellPhases(int kind) {
             for (int p = 0; p < PHASES; p++) {
                 if (kind == TIDE) {
-                    river.streams[p] = numbers[p] - CALM;
+                    draft.streams[p] = numbers[p] - CALM;
                 } else {
-                    river.heights[p] = numbers[p];
+                    draft.heights[p] = numbers[p];
                 }
             }
         }
@@ -1066,26 +1058,26 @@ public final class UpRiver {
         void tellReach(int kind, int r) {
             switch (kind) {
                 case BANK:
-                    river.lows[r] = numbers[1];
-                    river.highs[r] = numbers[2];
+                    draft.lows[r] = numbers[1];
+                    draft.highs[r] = numbers[2];
                     break;
                 case DEEP:
-                    river.depths[r * LANES + numbers[1]] = numbers[2];
+                    draft.depths[r * LANES + numbers[1]] = numbers[2];
                     break;
                 case EDDY:
-                    river.eddies[r * LANES + numbers[1]] = true;
+                    draft.eddies[r * LANES + numbers[1]] = true;
                     break;
                 case LEE:
-                    river.lees[r] = true;
+                    draft.lees[r] = true;
                     break;
                 default:
-                    river.winds[r] = numbers[1];
+                    draft.winds[r] = numbers[1];
                     break;
             }
         }
     }
 
-    /** A boat in a minute. */
+    /** A boat in a minute; a new one lies at the start of the river as it is at first, where all is 0. */
     private static final class Boat {
         int fine;
         int lane;
@@ -1209,24 +1201,20 @@ public final class UpRiver {
         private static final int BITS = 64;
 
         final long[] held = new long[MINUTES_HELD * LONGS_A_MINUTE];
-        River river;
         int later;
         int lowLane;
         int highLane;
+        int top;
         int goal;
         int found;
 
-        Search(River anyRiver) {
-            river = anyRiver;
-        }
-
         /** Phases begin some minutes later; till told otherwise all lanes serve, and the goal is to be up. */
-        void begin(River newRiver, int newLater) {
-            river = newRiver;
+        void begin(River river, int newLater) {
             later = newLater;
             lowLane = 0;
             highLane = LANES - 1;
-            goal = river.top();
+            top = river.top();
+            goal = top;
             for (int i = 0; i < held.length; i++) {
                 held[i] = 0;
             }
@@ -1246,24 +1234,24 @@ public final class UpRiver {
         }
 
         void add(Boat boat) {
-            if (serves(boat.lane) && boat.fine < river.top()) {
+            if (serves(boat.lane) && boat.fine < top) {
                 held[indexOf(boat.lane, boat.board, boat.minute)] |= 1L << boat.fine;
             }
         }
 
         /** The first minute in which one of those that were added, all in this minute, is at the goal. */
-        int arrive(int minute, int last) {
+        int arrive(River river, int minute, int last) {
             found = last + 1;
             for (int t = minute; t < last && t + 1 < found; t++) {
                 for (int lane = lowLane; lane <= highLane; lane++) {
-                    leave(lane, 0, t);
-                    leave(lane, 1, t);
+                    leave(river, lane, 0, t);
+                    leave(river, lane, 1, t);
                 }
             }
             return found <= last ? found : NONE;
         }
 
-        void leave(int lane, int board, int t) {
+        void leave(River river, int lane, int board, int t) {
             int index = indexOf(lane, board, t);
             long here = held[index];
             held[index] = 0;
@@ -1290,7 +1278,7 @@ public final class UpRiver {
         }
 
         void noteUp(long some, int drift, int t) {
-            if (drift > 0 && bitsFrom(some, river.top() - drift) != 0) {
+            if (drift > 0 && bitsFrom(some, top - drift) != 0) {
                 found = Math.min(found, t);
             }
         }

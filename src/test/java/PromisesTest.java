@@ -238,6 +238,8 @@ public final class PromisesTest {
         textIs("dark five;", -15, 2);
         textIs(" ;", -11, 2);
         textIs("7", -10, 2);
+        textIs("zoo 1;", -10, 2);
+        textIs("a", -10, 2);
         textIs("dark", -14, 2);
         textIs("dark   ", -17, 2);
         textIs("dark 5 ", -17, 2);
@@ -266,6 +268,10 @@ public final class PromisesTest {
         textIs("tide 19", -15, 3);
         textIs("high 16", -15, 3);
         textIs("tide 1 2 3 4 5 6 7 8 9 10 11;", -10 - 28, 2);
+        textIs("reaches 8;deep 7 8 1;deep 7 8 1;", -38, 4);
+        textIs("reaches 8;eddy 7 8;eddy 7 8;", -36, 4);
+        textIs("deep 1 0 1;eddy 1 0;deep 0 8 1;eddy 0 8;deep 0 0 1;eddy 0 0;", 6, 0);
+        textIs("bank 0 0 1;lee 0;wind 0 0;bank 1 0 1;lee 1;wind 1 0;", 6, 0);
         textIs("lee 6;", -16, 5);
         textIs("reaches 3;lee 3;  ", -28, 5);
         textIs("lee 5;reaches 5;", -26, 5);
@@ -539,6 +545,31 @@ public final class PromisesTest {
         due(15, "up by a turn", x.soonest(), 9);
         x = river("reaches 2;deep 0 0 0;");
         due(15, "aground for ever", x.soonest(), NONE);
+        soonestOverShoals();
+    }
+
+    /** Lane 1 has water from 0 to 4, from 60 to 64, and so on: she comes there in one of these minutes or not at all. */
+    private static void soonestOverShoals() {
+        String shoal = "reaches 2;beat 5;draught 20;bank 0 0 1;deep 0 1 15;high 5 0 0 0 0 0 0 0 0 0 0 0;";
+        UpRiver x = river(shoal);
+        due(15, "over the shoal", x.soonest(), 4);
+        x.set(4, 0, 0, 10);
+        due(15, "above the shoal", x.soonest(), 13);
+        x.set(0, 0, 0, 3);
+        due(15, "just in time", x.soonest(), 7);
+        x.set(0, 0, 0, 4);
+        due(15, "not in time: waits till 59", x.soonest(), 63);
+        due(17, "of several the first: to turn and turn again costs nothing", x.first(), 1);
+        x.set(0, 0, 0, 58);
+        due(17, "nothing but to wait", x.first(), 2);
+        x.set(0, 0, 0, 59);
+        due(15, "sails as the water comes", x.soonest(), 63);
+        x.set(0, 0, 0, 58);
+        due(15, "not sooner", x.soonest(), 63);
+        x.set(4, 1, 1, 2);
+        due(16, "a turn that ends in time", x.only(1, 8), 7);
+        x.set(4, 1, 1, 3);
+        due(16, "one that does not: she waits for the next water", x.only(1, 8), 65);
     }
 
     private static void only() {
@@ -639,8 +670,25 @@ public final class PromisesTest {
         for (int[] b : bad) {
             due(20, "bad", x.days(b[0], b[1], b[2]), BAD);
         }
+        daysOfWaterAndStream();
         due(20, "all", new UpRiver().days(14, 99, 0), 14);
         due(20, "all", new UpRiver().days(14, 99, 1), 0);
+    }
+
+    /** On the second day phases begin 57 later: minute 0 is what 3 was. */
+    private static void daysOfWaterAndStream() {
+        UpRiver x = river("reaches 2;beat 5;draught 20;dark 50;bank 0 0 1;deep 0 1 15;high 5 0 0 0 0 0 0 0 0 0 0 0;");
+        due(20, "there in time both days", x.days(2, 57, 0), 2);
+        due(20, "not on the third, which is what 6 was, nor the fourth", x.days(4, 57, 0), 2);
+        due(20, "not on the day that is what 4 was", x.days(2, 56, 0), 1);
+        // She must turn on the shoal, and there is water from minute 10 to 14 on the second day.
+        x = river("reaches 2;beat 5;draught 20;dark 17;bank 0 0 1;deep 0 1 15;deep 1 2 0;high 5 0 0 0 0 0 0 0 0 0 0 0;");
+        due(20, "turned while there is water", x.days(2, 10, 0), 2);
+        due(20, "a minute too late", x.days(2, 11, 0), 1);
+        x = river("reaches 2;beat 5;point 1;dark 4;tide 9 9 9 9 9 9 9 9 9 9 9 18;bank 0 4 8;bank 1 4 8;");
+        due(20, "no stream", x.days(1, 5, 0), 0);
+        due(20, "on the second minute 0 is what 55 was", x.days(2, 5, 0), 1);
+        due(20, "the first", x.days(3, 5, 1), 1);
     }
 
     // ---- a skipper
@@ -863,6 +911,8 @@ public final class PromisesTest {
         due(31, "the least of several", x.judge(0), 2);
         due(31, "right", x.judge(1), 38);
         due(31, "all", x.judge(2), 38);
+        x.keep(0);
+        due(34, "forty are kept", x.back(0) + x.count(1), 40);
         x = new UpRiver();
         x.swing(0);
         x.swing(2);
@@ -871,6 +921,12 @@ public final class PromisesTest {
         due(30, "mean of 0 and 2", x.judged(2), 1);
         x.swing(2);
         due(30, "1.5 is 2", x.judged(2), 2);
+        x = new UpRiver();
+        for (int i = 0; i < 21; i++) {
+            x.swing(i < 9 ? 0 : i < 20 ? 2 : 1);
+        }
+        due(30, "the mean of twenty", x.judged(20), 1);
+        due(31, "twenty is the best", x.judge(0) * 100 + x.judge(1) * 10 + x.judge(2), 2011);
         x = new UpRiver();
         int[] winds = {0, 0, 1, 0, 0, 1, 0};
         for (int v : winds) {
@@ -963,6 +1019,30 @@ public final class PromisesTest {
         x.sheet(0, 0, 3);
         x.back(0);
         due(34, "sheets are in no image", x.count(6), 3);
+        imagesHoldTheirOwn();
+    }
+
+    private static void imagesHoldTheirOwn() {
+        UpRiver x = new UpRiver();
+        x.keep(0);
+        int[][] first = {{0, 0}, {1, 5}, {2, 9}};
+        for (int[] f : first) {
+            x.logged(f[0], f[1]);
+            x.swing(1);
+        }
+        x.keep(1);
+        x.back(0);
+        due(34, "nothing yet", x.count(0) + x.count(1), 0);
+        for (int i = 0; i < 3; i++) {
+            x.logged(3 + i, 100 + i);
+            x.swing(i == 1 ? 2 : 0);
+        }
+        due(30, "others", x.judged(1), 0);
+        x.back(1);
+        due(34, "the swings of the image", x.judged(1), 2);
+        due(34, "the logged of the image", x.lost(0), 3);
+        due(34, "where", x.lost(1), 0);
+        due(34, "the latest logged is the image's", x.logged(3, 10), 4);
     }
 
     private static void sheets() {
@@ -996,6 +1076,13 @@ public final class PromisesTest {
         due(35, "a new row is of 0", x.read(0, 0, 0, 1), -20);
         x.sheet(0, 0, -5);
         due(35, "refused: the old one stays", x.count(6), 2);
+        x = new UpRiver();
+        x.sheet(1, 2, 3);
+        x.lay(1, 0, 5);
+        x.lay(1, 1, 50);
+        x.sheet(1, 2, 2);
+        due(35, "of 0", x.read(1, 2, 0, 1), 1);
+        due(35, "0 and 0 was read", x.logged(1, 1), 2);
     }
 
     /** What a cell holds is seen by what it logs: 256 and 3 in a byte is 3. */
