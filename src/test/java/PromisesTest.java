@@ -543,6 +543,11 @@ public final class PromisesTest {
         x = river("reaches 2;point 1;turn 9;draught 20;" + twelve("tide", "11") + "deep 0 5 0;deep 0 3 0;deep 1 5 0;deep 1 3 0;");
         x.set(0, 4, 0, 0);
         due(15, "up by a turn", x.soonest(), 9);
+        // To turn in eight minutes against eight drifts her 64 eighths back, to 0; it is sooner than to wait for slack water.
+        x = river("reaches 2;turn 8;beat 8;deep 0 7 0;deep 1 7 0;tide 1 9 9 9 9 9 9 9 9 9 9 9;");
+        x.set(0, 6, 0, 0);
+        due(15, "a turn in the worst of the stream", x.soonest(), 12);
+        due(17, "she turns", x.first(), 1);
         x = river("reaches 2;deep 0 0 0;");
         due(15, "aground for ever", x.soonest(), NONE);
         soonestOverShoals();
