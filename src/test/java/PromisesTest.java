@@ -55,24 +55,9 @@ public final class PromisesTest {
         }
     }
 
-    private static void feedText(UpRiver x, String text) {
-        StringBuilder b = new StringBuilder(text);
-        while (b.length() % 8 != 0) {
-            b.append(' ');
-        }
-        for (int i = 0; i < b.length(); i += 8) {
-            long v = 0;
-            for (int j = 0; j < 8; j++) {
-                v = v << 8 | b.charAt(i + j) & 255;
-            }
-            x.feed(v);
-        }
-        x.end(text.length());
-    }
-
     private static UpRiver river(String text) {
         UpRiver x = new UpRiver();
-        feedText(x, text);
+        Checks.feedText(x, text);
         int lines = x.text();
         due(4, "text() of " + text, lines, (int) text.chars().filter(c -> c == ';').count());
         return x;
@@ -143,7 +128,7 @@ public final class PromisesTest {
         UpRiver x = new UpRiver();
         due(3, "end of nothing", x.end(0), 0);
         due(3, "end beyond nothing", x.end(1), BAD);
-        feedText(x, "lee 1;xx");
+        Checks.feedText(x, "lee 1;xx");
         due(3, "end(-1)", x.end(-1), BAD);
         due(3, "end(9)", x.end(9), BAD);
         for (int far : FAR) {
@@ -155,14 +140,14 @@ public final class PromisesTest {
         due(3, "bytes", x.count(5), 6);
         due(3, "text", x.text(), 1);
         due(3, "lee", x.reach(1, 2), 1);
-        feedText(x, "lee 1;xx");
+        Checks.feedText(x, "lee 1;xx");
         due(3, "end(0)", x.end(0), 8);
         due(3, "end(0) again", x.end(0), 0);
     }
 
     private static void textIs(String text, int want, int fault) {
         UpRiver x = new UpRiver();
-        feedText(x, text);
+        Checks.feedText(x, text);
         due(4, "text() of '" + text + "'", x.text(), want);
         due(5, "fault() of '" + text + "'", x.fault(), fault);
         due(4, "bytes then", x.count(5), 0);
@@ -192,13 +177,13 @@ public final class PromisesTest {
         x.keep(0);
         x.sheet(0, 0, 5);
         x.read(1, 0, 0, 1);
-        feedText(x, "dark 0;");
+        Checks.feedText(x, "dark 0;");
         due(4, "a fault", x.text(), -15);
         due(5, "fault", x.fault(), 3);
         due(4, "what was told stays", x.rule(0) * 10 + x.count(2) + x.count(3), 32);
         due(4, "the boat stays", x.now(1) * 10 + x.now(2), 84);
         due(4, "logged, swings, images stay", x.count(0) + x.count(1) + x.count(4), 3);
-        feedText(x, "beat 5;bank 0 3 6;");
+        Checks.feedText(x, "beat 5;bank 0 3 6;");
         due(4, "taken", x.text(), 2);
         due(5, "fault", x.fault(), 0);
         due(4, "not told: as at first", x.rule(0) * 10 + x.count(2) + x.count(3), 60);
