@@ -10,6 +10,7 @@ public final class WayEdgesTest {
         soonestByDrift();
         soonest();
         only();
+        onlyAlone();
         onlyRefused();
         first();
         firstRefused();
@@ -80,11 +81,12 @@ public final class WayEdgesTest {
             UpRiver x = Checks.river("reaches 2;eddy 0 5;eddy 1 5;eddy 1 6;" + Checks.twelve("tide", 9 - against));
             x.set(8 + against - 4, 4, 0, 0);
             Checks.due("back to 8, into an eddy, up", x.soonest(), 2);
-            x.set(0, 4, 0, 0);
-            Checks.due("0 at least, into an eddy, into another, up", x.soonest(), 3);
-            x.set(against - 4, 4, 0, 0);
-            Checks.due("back to 0, into an eddy, into another, up", x.soonest(), 3);
+            for (int fine = 0; fine <= against - 4; fine++) {
+                x.set(fine, 4, 0, 0);
+                Checks.due("back to 0, which is the least, into an eddy, into another, up", x.soonest(), 3);
+            }
         }
+        backIsNotToTheLeast();
         UpRiver x = Checks.river("reaches 8;point 1;");
         x.set(63, 4, 0, 0);
         Checks.due("the last eighth of 64", x.soonest(), 1);
@@ -96,6 +98,15 @@ public final class WayEdgesTest {
         x = Checks.river("reaches 2;turn 8;beat 8;deep 0 7 0;deep 1 7 0;" + Checks.phases("tide", 9, 1));
         x.set(0, 6, 0, 0);
         Checks.due("to turn in the worst of the stream, 64 back", x.soonest(), 12);
+    }
+
+    /** In reach 0 she would be up in a minute; from 12, less 1 a minute, she comes there by two turns at the soonest. */
+    private static void backIsNotToTheLeast() {
+        UpRiver x = Checks.river("reaches 2;shift 8;wind 0 2;eddy 0 5;" + Checks.twelve("tide", 4));
+        x.set(0, 5, 0, 0);
+        Checks.due("from 0 in the eddy", x.soonest(), 1);
+        x.set(12, 4, 0, 0);
+        Checks.due("12 less 10, less 10, and 7, and 17", x.soonest(), 6);
     }
 
     private static void soonest() {
@@ -139,6 +150,25 @@ public final class WayEdgesTest {
         x.set(0, 0, 0, 296);
         Checks.due("in 300", x.only(0, 3), 300);
         Checks.due("not by 300", x.only(0, 2), Checks.NONE);
+    }
+
+    /** The lanes that one question is kept to are no matter of the next one. */
+    private static void onlyAlone() {
+        Checks.sentence("16.alone", "LANES from a to b alone");
+        UpRiver x = Checks.river("reaches 2;bank 0 0 3;dark 4;");
+        x.logged(0, 0);
+        x.logged(1, 9);
+        int[][] pairs = {{8, 8}, {0, 0}, {3, 4}};
+        for (int[] p : pairs) {
+            Checks.due("asked", x.only(p[0], p[1]), Checks.NONE);
+            Checks.due("days", x.days(1, 0, 0), 1);
+            x.only(p[0], p[1]);
+            Checks.due("lost", x.lost(0), 7);
+            x.only(p[0], p[1]);
+            Checks.due("from", x.from(3), 7);
+            x.only(p[0], p[1]);
+            Checks.due("soonest", x.soonest(), 4);
+        }
     }
 
     private static void onlyRefused() {
