@@ -12,6 +12,7 @@ public final class LogEdgesTest {
         fractions();
         lead();
         near();
+        nearAlways();
         logged();
         loggedMany();
         loggedLowerEnd();
@@ -129,6 +130,18 @@ public final class LogEdgesTest {
         Checks.allAre(Checks.BAD, "x", v -> x.near(1, 1, 1, v, 1), -1, 100, Checks.LEAST, Checks.MOST);
         Checks.allAre(Checks.BAD, "y", v -> x.near(1, 1, 1, 1, v), 0, -1, 100, Checks.LEAST, Checks.MOST);
         Checks.due("all 0", x.near(0, 0, 0, 1, 1), Checks.BAD);
+    }
+
+    /** NONE is told, but the greatest draught, 20, is less than 30 by more than the lead can be off: there is always one. */
+    private static void nearAlways() {
+        Checks.sentence("26.none", "The least r (0 to 30) from which on that is no more than x by y (0 to 99, 1 to 99). BAD; NONE.");
+        for (int draught = 1; draught <= 20; draught++) {
+            UpRiver x = Checks.river("draught " + draught + ";");
+            Checks.due("by -1 alone", x.near(9, 0, 0, 0, 99), draught - 1);
+            Checks.due("by 0 alone", x.near(0, 9, 0, 0, 99), draught);
+            Checks.due("by 1 alone", x.near(0, 0, 9, 0, 99), draught + 1);
+            Checks.due("by 1, too", x.near(9, 9, 1, 0, 99), draught + 1);
+        }
     }
 
     // ---- a log
